@@ -68,6 +68,10 @@ public final class NightsTest {
         Due.is("the most", 2, x.starves(0));
         x.callOff(2);
         Due.is("called off", 1, x.starves(0));
+        x.order(0, 0, 10, 0);
+        x.minutes(1);
+        Due.is("zone 0, of several the least", 0, x.starves(0));
+        x.callOff(3);
         x.callOff(0);
         x.callOff(1);
         Due.is("none left", Due.NONE, x.starves(0));

@@ -53,6 +53,12 @@ public final class OffersTest {
         x.force(0, -1);
         Due.is("offered without a rule", Due.STATE, x.offered(0));
         // negative values compare as they are, with wait and lateness
+        x.order(0, 2, 60, 0);
+        x.minutes(2);
+        int waits = Due.text(x, "(w=2)*n+(w=12)*(5-n)");
+        x.force(0, waits);
+        Due.is("offered by a wait of 12", 1, x.offered(0));
+        Due.is("offered by a wait of 2", 3, x.offered(3));
         int late = Due.text(x, "0-l-w");
         x.force(0, late);
         Due.is("offered by lateness", 1, x.offered(0));

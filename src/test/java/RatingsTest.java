@@ -76,6 +76,12 @@ public final class RatingsTest {
         Due.is("not below with three", 0, x.ban(0, 28, 3));
         Due.is("limit 0", 0, x.ban(0, 0, 1));
         Due.is("another rider", Due.BEYOND, x.ban(1, 50, 1));
+        x.rider(0, 0);
+        x.order(0, 0, 10, 0);
+        x.minutes(300);
+        x.give(1, 3);
+        Due.is("a mean of 0 is below 1", 1, x.ban(1, 1, 1));
+        Due.is("a mean of 0 is not below 0", 0, x.ban(1, 0, 1));
     }
 
     private static void seen() {

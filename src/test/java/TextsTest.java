@@ -219,13 +219,17 @@ public final class TextsTest {
         for (int i = 0; i < 7; i++) {
             Due.is("says without a way " + letters.charAt(i), none[i], x.says(text[i], 1, 1));
         }
+        x.order(0, 2, 30, 0);
+        x.minutes(4);
+        Due.is("w of one placed later", 4, x.says(text[1], 1, 2));
+        Due.is("w of the first", 11, x.says(text[1], 1, 0));
         x.callOff(0);
-        Due.is("late of one called off", 37, x.says(text[4], 1, 0));
-        Due.is("w of one called off", 7, x.says(text[1], 1, 0));
+        Due.is("late of one called off", 41, x.says(text[4], 1, 0));
+        Due.is("w of one called off", 11, x.says(text[1], 1, 0));
         Due.is("says(8, ..)", Due.BEYOND, x.says(8, 0, 0));
         Due.is("says(-1, ..)", Due.BEYOND, x.says(-1, 0, 0));
         Due.is("says(0, 2, 0)", Due.BEYOND, x.says(0, 2, 0));
-        Due.is("says(0, 0, 2)", Due.BEYOND, x.says(0, 0, 2));
+        Due.is("says(0, 0, 3)", Due.BEYOND, x.says(0, 0, 3));
         Due.is("findings", 4, x.status(0));
         // -9999 * 9999 - .. is below -1000000, but no finding
         int low = Due.text(x, "-9999*100-101");
