@@ -10,15 +10,25 @@ final class Due {
 
     private static int wrong = 0;
     private static int asked = 0;
+    private static String about = "";
 
     private Due() {
+    }
+
+    /** What the answers from now on are asked for; told with each that is not as due. */
+    static void about(String what) {
+        about = what.isEmpty() ? "" : what + ": ";
+    }
+
+    static int asked() {
+        return asked;
     }
 
     static void is(String call, int want, int got) {
         asked++;
         if (got != want) {
             wrong++;
-            System.out.println(call + " answered " + got + ", due is " + want);
+            System.out.println(about + call + " answered " + got + ", due is " + want);
         }
     }
 
@@ -26,7 +36,7 @@ final class Due {
         asked++;
         if (!holds) {
             wrong++;
-            System.out.println("does not hold: " + what);
+            System.out.println(about + "does not hold: " + what);
         }
     }
 
