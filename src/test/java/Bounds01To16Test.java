@@ -181,14 +181,16 @@ public final class Bounds01To16Test extends Bounds {
         Run r = new Run().go(100);
         r.call("road", 2, 3, 10);
         r.call("kitchen", 0, 60);
+        r.call("kitchen", 0, 60);
         r.call("kitchen", 2, 5);
-        r.call("rider", 0, 0);
-        r.call("rider", 0, 3);
-        r.call("order", 1, 3, 14, 5);
+        for (int rider = 0; rider <= 4; rider++) {
+            r.call("rider", 0, 3);
+        }
+        r.call("order", 2, 3, 13, 5);
         r.call("force", 1, r.text("66"));
-        r.go(4).call("give", 1, 0);
-        // there at 114, READY at 110, dropped at 124, LATE 10; one lacks by each
-        int[] due = {1, 3, 100, 110, 1, 1, 114, 124, 10, 66, 47};
+        r.go(4).call("give", 4, 0);
+        // there at 114, READY at 110, dropped at 124, LATE 11; one lacks by each
+        int[] due = {2, 3, 100, 110, 1, 4, 114, 124, 11, 66, 47};
         for (int what = 0; what <= 10; what++) {
             r.due(due[what], "orderOf", 0, what);
         }

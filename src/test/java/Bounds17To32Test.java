@@ -70,7 +70,8 @@ public final class Bounds17To32Test extends Bounds {
         r.feed("??").refuses(FULL, "text").due(5, "count", 6).due(8, "count", 5).due(5, "wipe");
     }
 
-    @Sentence(of = 19, says = "With a FAULT: -1 less the FAULT (nothing changes but that THE TAPE is empty; no finding).")
+    @Sentence(of = 19, says = "With a FAULT: -1 less the FAULT (nothing changes but that THE TAPE is empty; "
+            + "no finding).")
     static void p19Fault() {
         String[] texts = {"", "?", "1?", "d+", "(((((((1", " ".repeat(80), "1+".repeat(39) + "1;"};
         int[] due = {-1, -1, -2, -3, -7, -81, -80};
@@ -82,10 +83,7 @@ public final class Bounds17To32Test extends Bounds {
             for (int f = -1; f <= 6; f++) {
                 r.due(empty.call("status", f), "status", f);
             }
-            for (int part = 0; part < Everything.PARTS; part++) {
-                Due.isTrue("part " + part + " is as it was", java.util.Arrays.equals(
-                        Everything.answers(empty.twin(), part), Everything.answers(r.twin(), part)));
-            }
+            r.isLike(empty);
         }
     }
 
@@ -209,9 +207,10 @@ public final class Bounds17To32Test extends Bounds {
     @Sentence(of = 24, says = "All waiting ORDERS, by numbers, are OFFERED, each GIVEN at once: how many.")
     static void p24HowMany() {
         Run r = town();
-        // 0 to RIDER 0, who is busy then; 3 to 3; 4 to nobody
+        // 0 to RIDER 0 from 7 on, who is busy then; 3 to 3; 4 to nobody
         r.due(2, "offerAll").due(0, "orderOf", 0, 5).due(3, "orderOf", 3, 5).due(0, "orderOf", 4, 4);
-        r.due(1, "count", 3).due(0, "offerAll").due(2, "orderOf", 2, 4).due(1, "orderOf", 1, 5);
+        r.due(17, "orderOf", 0, 7).due(1, "count", 3).due(0, "offerAll");
+        r.due(2, "orderOf", 2, 4).due(1, "orderOf", 1, 5);
         Run none = new Run();
         none.call("force", 0, none.text("1"));
         none.due(0, "offerAll").due(0, "status", -1);
@@ -362,6 +361,12 @@ public final class Bounds17To32Test extends Bounds {
         // RIDER 1 picked its one ORDER at 25, READY at 7: 4 lack
         r.due(4, "lacks", 1, 2).due(0, "ban", 1, 46, 1).due(1, "ban", 1, 47, 1).due(1, "ban", 1, 50, 1);
         r.due(0, "ban", 1, 50, 2).due(0, "ban", 1, 0, 1).due(0, "ban", 0, 50, 1).due(0, "ban", 0, 50, 9);
+        // the last of all ORDERS counts
+        for (int o = 7; o < 24; o++) {
+            r.call("order", 0, 1, 30, 0);
+        }
+        r.go(600).call("give", 0, 23);
+        r.due(1, "ban", 0, 1, 1).due(0, "ban", 0, 50, 2);
     }
 
     @Sentence(of = 30, says = "BEYOND: rider, limit 0 to 50, orders 1 to 9.")

@@ -1,9 +1,12 @@
 /** The sentences of promises 33 to 48, one test each. */
 public final class Bounds33To48Test extends Bounds {
-    private static final String OF_A_ZONE = "Of a ZONE: what 0 ORDERS to it that wait, 1 that were GIVEN, 2 LATE of these together, "
+    private static final String OF_A_ZONE =
+            "Of a ZONE: what 0 ORDERS to it that wait, 1 that were GIVEN, 2 LATE of these together, "
             + "3 PAY of these together.";
 
     private static final String WRITTEN = "Number i of a sheet becomes v (its lowest bits, with their sign): 1.";
+
+    private static final String ALL_BUT = "All but THE TAPE and SHEETS is kept: 1.";
 
     public static void main(String[] args) throws Exception {
         run(Bounds33To48Test.class);
@@ -50,8 +53,8 @@ public final class Bounds33To48Test extends Bounds {
         town().within(0, 0, 3, "zone", 0, 0).within(1, 0, 3, "zone", 0, 0);
     }
 
-    @Sentence(of = 34, says = "The ZONE that starves: the one with the most waiting ORDERS that are placed for more than "
-            + "n MINUTES (0 to 1439), of several the least.")
+    @Sentence(of = 34, says = "The ZONE that starves: the one with the most waiting ORDERS that are placed for "
+            + "more than n MINUTES (0 to 1439), of several the least.")
     static void p34Starves() {
         Run r = new Run();
         r.call("kitchen", 0, 1);
@@ -124,6 +127,19 @@ public final class Bounds33To48Test extends Bounds {
         r.due(0, "night", fair, 3);
         r.go(1).call("order", 0, 0, 10, 0);
         r.due(1, "night", fair, 3).due(2, "whom", fair, 3).due(30, "night", fair, 4);
+        // all of 24 to the one RIDER, to the last of twelve
+        Run all = new Run();
+        all.call("kitchen", 0, 1);
+        all.call("rider", 0, 0);
+        for (int o = 0; o < 24; o++) {
+            all.call("order", 0, 0, 10, 0);
+        }
+        int last = all.text("n");
+        all.due(24, "night", last, 0).due(24, "night", last, 2).due(24, "night", last, 3);
+        for (int rider = 1; rider < 12; rider++) {
+            all.call("rider", 0, 0);
+        }
+        all.due(24, "night", last, 2).due(0, "night", last, 3).due(11, "whom", last, 23);
     }
 
     @Sentence(of = 35, says = "BEYOND.")
@@ -400,7 +416,8 @@ public final class Bounds33To48Test extends Bounds {
         r.refuses(BEYOND, "copy", 0, 0, 2, -1, 2).refuses(BEYOND, "copy", 0, 1, 0, 0, 6);
     }
 
-    @Sentence(of = 42, says = "ROADS come from a sheet: threes (two CROSSINGS, MINUTES), from its begin on: how many came.")
+    @Sentence(of = 42, says = "ROADS come from a sheet: threes (two CROSSINGS, MINUTES), from its begin on: "
+            + "how many came.")
     static void p42Come() {
         Run r = new Run();
         row(r, 0, 8, 0, 15, 60, 15, 1, 1);
@@ -452,9 +469,9 @@ public final class Bounds33To48Test extends Bounds {
         r.refuses(MISSING, "roads", 0);
     }
 
-    @Sentence(of = 43, says = "THE READER: numbers of a sheet are, by ORDERS, to whom each is GIVEN in a NIGHT by a TEXT "
-            + "(-1: nobody): 0 if they are just so; else 1 more than how many of them, from the first on, are right "
-            + "(so, too, if there are too few, too many).")
+    @Sentence(of = 43, says = "THE READER: numbers of a sheet are, by ORDERS, to whom each is GIVEN in a NIGHT "
+            + "by a TEXT (-1: nobody): 0 if they are just so; else 1 more than how many of them, from the first "
+            + "on, are right (so, too, if there are too few, too many).")
     static void p43Reader() {
         Run r = town();
         // by n: 3 takes all but the one called off and the one without a WAY
@@ -482,6 +499,19 @@ public final class Bounds33To48Test extends Bounds {
             r.call("write", 2, 7, -1);
             r.due(8, "judge", 2, 2);
         }
+        // 24 ORDERS, all but the last of them right, then all
+        Run all = new Run();
+        all.call("kitchen", 0, 1);
+        all.call("rider", 0, 0);
+        all.text("1");
+        all.call("sheet", 0, 8, 24);
+        for (int o = 0; o < 24; o++) {
+            all.call("order", 0, 0, 10, 0);
+        }
+        all.due(0, "judge", 0, 0).call("write", 0, 23, -1);
+        all.due(24, "judge", 0, 0).call("sheet", 0, 8, 23);
+        all.due(24, "judge", 0, 0).call("sheet", 0, 8, 25);
+        all.due(25, "judge", 0, 0);
         // no ORDERS
         Run none = new Run();
         none.text("1");
@@ -511,13 +541,13 @@ public final class Bounds33To48Test extends Bounds {
 
     // ---- images
 
-    @Sentence(of = 44, says = "All but THE TAPE and SHEETS is kept: 1.")
+    @Sentence(of = 44, says = ALL_BUT)
     static void p44Kept() {
-        Run r = town();
+        Run r = town().go(4);
         Run was = r.twin();
         r.due(1, "image");
         change(r);
-        r.due(7, "undo");
+        r.due(11, "undo");
         // what was fed and written stands
         r.due(4, "count", 6).due(1, "roads", 2).due(MISSING, "roads", 1).due(9, "way", 8, 9);
         r.call("undo");
@@ -537,6 +567,24 @@ public final class Bounds33To48Test extends Bounds {
             r.due(was.call("says", t, 0, 0), "says", t, 0, 0).due(was.call("night", t, 1), "night", t, 1);
         }
         r.due(0, "force", 0, -1).due(1, "force", 1, -1).due(60, "law", 0).due(3, "count", 5);
+    }
+
+    @Sentence(of = 44, says = ALL_BUT)
+    static void p44LastRows() {
+        Run r = new Run().go(3);
+        r.call("road", 14, 15, 10);
+        r.call("kitchen", 15, 1);
+        for (int i = 0; i < 24; i++) {
+            r.call("rider", 0, 14);
+            r.call("order", 0, 14, 10, 0);
+        }
+        r.call("force", 1, r.text("50"));
+        r.due(1, "refuse", 10, 21).due(23, "give", 11, 22).due(10, "orderOf", 22, 8);
+        Run was = r.twin();
+        was.call("image");
+        r.due(1, "image").go(9).due(32, "give", 9, 23).due(43, "give", 11, 19).due(1, "app", 11, 0, 1439);
+        r.due(2, "refuse", 10, 20).due(1, "callOff", 18).due(1, "road", 14, 15, 1).due(0, "crossing", 15, 0, 9);
+        r.due(3, "undo").isLike(was).due(9, "road", 15, 14, 9).due(3, "undo").isLike(was);
     }
 
     /** Something of each kind is changed. */
@@ -576,7 +624,8 @@ public final class Bounds33To48Test extends Bounds {
         two.due(1, "image").go(4).call("road", 0, 1, 2);
         // the latest alone, again and again, whatever is done in between
         two.due(3, "undo").due(5, "way", 0, 1).go(9).call("road", 0, 1, 1);
-        two.due(3, "undo").due(5, "way", 0, 1).due(3, "undo").due(1, "tear").refuses(NONE, "undo");
+        two.due(3, "undo").due(5, "way", 0, 1).due(3, "undo").due(5, "road", 0, 1, 6).due(60, "road", 1, 2, 60);
+        two.due(3, "undo").due(59, "road", 1, 2, 59).due(64, "way", 0, 2).due(1, "tear").refuses(NONE, "undo");
     }
 
     @Sentence(of = 45, says = "NONE: nothing is kept.")

@@ -1,17 +1,20 @@
 /** The Terms' sentences about TEXTS, offers, pay, ratings, nights, spots and sheets, one test each. */
 public final class BoundsTermsTextsTest extends Bounds {
-    private static final String FAULT = "FAULT: the place (from 0) of the first byte of the first TOKEN that can't stand "
+    private static final String FAULT =
+            "FAULT: the place (from 0) of the first byte of the first TOKEN that can't stand "
             + "there (a letter that is no NAME, a NUMBER above 9999, a byte that begins no TOKEN, a ( or - "
             + "ahead of a ONE while 6 of these are open: its own), or how many bytes there are if it ends "
             + "too early.";
 
-    private static final String PAY = "PAY of a GIVEN ORDER: what THE PAY gave as it was GIVEN (0 without one; NAMES of "
+    private static final String PAY =
+            "PAY of a GIVEN ORDER: what THE PAY gave as it was GIVEN (0 without one; NAMES of "
             + "its RIDER as ahead of it, and of both that are JOINED, w and l of the ORDER as GIVEN), 0 at "
             + "least, 9999 at most (RAIN may bring it above that); in each RAIN (at most 6: from a MINUTE to "
             + "one, by 1 to 99 hundredths) in which PICK is (both ends, too) so many hundredths more, all "
             + "together (of PAY as it was).";
 
-    private static final String NIGHT = "A NIGHT by a TEXT: as if no ORDER was GIVEN, each RIDER was where it came, free from "
+    private static final String NIGHT =
+            "A NIGHT by a TEXT: as if no ORDER was GIVEN, each RIDER was where it came, free from "
             + "the MINUTE at which it came on, RATING 25 (all along) and h as of the NIGHT: ORDERS that aren't "
             + "called off, by MINUTES at which they were placed, of like ones by numbers, are GIVEN at once, each "
             + "to that RIDER that had come by then (free or not; refusals count nothing; its TRIP begins when it "
@@ -235,6 +238,10 @@ public final class BoundsTermsTextsTest extends Bounds {
             + "(of the ORDER, if it is GIVEN; else whatever its state is), c MINUTES that it GOES from the "
             + "KITCHEN to the CROSSING, n the number of the RIDER.")
     static void names() {
+        // to the KITCHEN, not from it; from it, not to it
+        Run hill = named();
+        hill.call("crossing", 1, 0, 4);
+        says(hill, 0, 0, 14, 0, 0, 25, 5, 20, 0);
         Run r = named();
         // d, w, h, r, l, c, n; READY at 15: dropped at 35 by the RIDER, by the CAR at 28
         says(r, 0, 0, 10, 0, 0, 25, 5, 20, 0);
@@ -253,6 +260,12 @@ public final class BoundsTermsTextsTest extends Bounds {
         // GIVEN: picked at 17, LATE 7, for whomever it is asked; the RIDER is at 2
         says(r, 0, 0, 20, 17, 1, 49, 7, 20, 0);
         says(r, 1, 0, 3, 17, 0, 25, 7, 13, 1);
+        // placed at 107: READY at 122, there at 130, dropped at 150, PROMISED by 137
+        r.call("order", 0, 2, 30, 0);
+        // it waits, and the RIDER is at 2: there at 127, dropped at 147
+        says(r, 0, 2, 20, 0, 1, 49, 10, 20, 0);
+        r.go(3).due(150, "give", 0, 2).go(9);
+        says(r, 1, 2, 3, 23, 0, 25, 13, 13, 1);
     }
 
     @Sentence(of = 0, says = "(0 for what can't be, as there is no WAY, no TRIP.)")
@@ -266,7 +279,7 @@ public final class BoundsTermsTextsTest extends Bounds {
         says(r, 0, 2, 10, 0, 0, 25, 0, 0, 0);
         says(r, 1, 3, 0, 0, 0, 25, 0, 3, 1);
         r.go(1400);
-        // a WAY, but no TRIP that ends by 1439: at 1430 with the RIDER from KITCHEN 0 to 2
+        // a WAY, but no TRIP that ends by 1439: with RIDER 0 it ends at 1430, with 2 at 1440
         r.call("rider", 0, 2);
         says(r, 0, 0, 10, 1400, 0, 25, 1400, 20, 0);
         says(r, 2, 0, 20, 1400, 0, 25, 0, 20, 2);
@@ -310,6 +323,28 @@ public final class BoundsTermsTextsTest extends Bounds {
         r.call("refuse", 1, 0);
         r.call("refuse", 0, 0);
         r.refuses(NONE, "offered", 0);
+        // each as it GOES, from where it is then: a WALKER who was GIVEN one, then a BIKE
+        Run kinds = new Run();
+        kinds.call("road", 0, 1, 10);
+        kinds.call("kitchen", 0, 1);
+        kinds.call("rider", 3, 1);
+        kinds.call("order", 0, 0, 10, 0);
+        kinds.call("order", 0, 1, 10, 0);
+        kinds.call("force", 0, kinds.text("l"));
+        kinds.due(20, "give", 0, 0).go(20).call("rider", 1, 1);
+        // by 40 and by 36
+        kinds.due(0, "offered", 1).call("force", 0, kinds.text("-l"));
+        kinds.due(1, "offered", 1).call("force", 0, kinds.text("-(l=30)"));
+        kinds.due(1, "offered", 1);
+        kinds.twin().due(1, "offerAll").due(36, "orderOf", 1, 7).due(36, "riderOf", 1, 2);
+        kinds.call("refuse", 1, 1);
+        kinds.due(0, "offered", 1).due(1, "offerAll").due(40, "orderOf", 1, 7).due(1, "riderOf", 0, 1);
+        // THE RULE knows how long it is placed and how LATE it would be
+        Run known = r.twin().go(60);
+        known.call("order", 0, 0, 15, 0);
+        known.go(7).call("force", 0, known.text("(w=7)*(l=2)*(d=10)"));
+        known.due(0, "offered", 2).call("force", 0, known.text("(w=7)*(l=0)*n*(n<2)"));
+        known.due(1, "offered", 2);
         // by the end of the day: from 1 there is no TRIP any more, from 0 there is
         Run late = r.twin().go(1429);
         late.call("order", 0, 0, 10, 0);
@@ -350,6 +385,16 @@ public final class BoundsTermsTextsTest extends Bounds {
         r.twin().due(1, "rain", 0, 10, 1).due(151, "orderOf", 0, 9);
         r.twin().due(1, "rain", 10, 1439, 99).due(298, "orderOf", 0, 9);
         r.twin().due(1, "rain", 10, 10, 50).due(225, "orderOf", 0, 9);
+        // READY at 10, picked at 15, dropped at 25: it is the MINUTE of PICK
+        Run away = new Run();
+        away.call("road", 0, 1, 10);
+        away.call("kitchen", 0, 10);
+        away.call("rider", 0, 1);
+        away.call("order", 0, 1, 10, 0);
+        away.call("force", 1, away.text("100"));
+        away.go(5).due(25, "give", 0, 0);
+        away.due(1, "rain", 0, 14, 99).due(2, "rain", 16, 1439, 99).due(100, "orderOf", 0, 9);
+        away.due(3, "rain", 15, 15, 7).due(107, "orderOf", 0, 9);
         // 1 hundredth of 150 is 1, two of these together 3, three 4
         r.call("rain", 0, 1439, 1);
         r.due(151, "orderOf", 0, 9).call("rain", 0, 1439, 1);
@@ -374,7 +419,7 @@ public final class BoundsTermsTextsTest extends Bounds {
         int[] second = {20, 55, 1, 49, 45, 20, 7};
         // JOINED: the one to 0 is picked at 15 and dropped at 25, the one to 2 at 35 and 55
         int[] joinedFirst = {10, 35, 0, 25, 25, 20, 7};
-        int[] joinedOther = {10, 15, 0, 25, 0, 10, 7};
+        int[] joinedOther = {10, 15, 0, 25, 4, 10, 7};
         for (int i = 0; i < 7; i++) {
             Run r = new Run();
             r.call("road", 0, 1, 10);
@@ -383,7 +428,7 @@ public final class BoundsTermsTextsTest extends Bounds {
             r.call("rider", 0, 0);
             r.call("order", 0, 2, 30, 0);
             r.call("order", 0, 2, 30, 0);
-            r.call("order", 0, 0, 30, 0);
+            r.call("order", 0, 0, 21, 0);
             r.call("force", 1, r.text(names[i]));
             r.go(3);
             Run joined = r.twin();
@@ -392,6 +437,11 @@ public final class BoundsTermsTextsTest extends Bounds {
             joined.due(55, "giveTwo", 0, 0, 2);
             joined.due(joinedFirst[i], "orderOf", 0, 9).due(joinedOther[i], "orderOf", 2, 9);
         }
+        // placed at 100, picked at 101
+        Run later = one().go(100);
+        later.call("order", 0, 0, 10, 0);
+        later.call("force", 1, later.text("w"));
+        later.due(101, "give", 0, 1).due(1, "orderOf", 1, 9);
     }
 
     // ---- the law
@@ -426,7 +476,7 @@ public final class BoundsTermsTextsTest extends Bounds {
     static void top() {
         Run r = engaged("0");
         // 11 MINUTES
-        int[][] due = {{0, 0}, {1, 1}, {5, 1}, {6, 2}, {54, 10}, {55, 11}, {60, 11}, {61, 12}, {999, 184}};
+        int[][] due = {{0, 0}, {1, 1}, {5, 1}, {6, 2}, {11, 3}, {54, 10}, {55, 11}, {60, 11}, {61, 12}, {999, 184}};
         for (int[] pair : due) {
             r.call("law", pair[0]);
             r.due(pair[1], "least", 0, 1);
@@ -474,6 +524,13 @@ public final class BoundsTermsTextsTest extends Bounds {
         two.call("give", 0, 1);
         two.call("app", 0, 20, 22);
         two.due(31 - 2 + 1, "least", 0, 0);
+        // of one whose TRIP came behind another's
+        Run second = engaged("0");
+        second.call("rider", 0, 0);
+        second.call("order", 0, 1, 60, 0);
+        second.call("give", 1, 1);
+        second.call("app", 1, 0, 1439);
+        second.due(5, "least", 1, 0).due(11, "least", 0, 0);
         // of another RIDER: nothing
         two.call("rider", 0, 0);
         two.call("app", 1, 0, 1439);
@@ -677,9 +734,13 @@ public final class BoundsTermsTextsTest extends Bounds {
         // RIDER 1 is free from 16, at 1, and still gets the next at 10
         r.go(5).call("order", 0, 0, 10, 0);
         r.due(1, "whom", last, 2).due(26, "night", last, 4);
-        // begun at 26, but placed at 30: at that MINUTE, from 0
+        // free from 26, at 0, but placed at 30: at that MINUTE, from 0
         r.go(20).call("order", 0, 1, 10, 0);
         r.due(41, "night", last, 4).due(3, "night", last, 0);
+        // free from 41, at 1, but placed at 50: there at 60, dropped at 70
+        Run away = r.twin().go(20);
+        away.call("order", 0, 1, 10, 0);
+        away.due(70, "night", last, 4).due(4, "night", last, 0);
         r.call("rider", 0, 0);
         r.due(2, "whom", last, 3).due(1, "whom", last, 2);
     }
@@ -714,6 +775,24 @@ public final class BoundsTermsTextsTest extends Bounds {
         named.call("order", 0, 1, 10, 0);
         named.due(1, "whom", named.text("(d=0)*(l=1)*(c=10)"), 0);
         named.due(0, "whom", named.text("(d=10)*(l=10)*(c=10)"), 0);
+        // each kind as it GOES, wherever it has come since: WAYS of 10 and 10 for all of these
+        Run kinds = new Run();
+        kinds.call("road", 0, 1, 10);
+        kinds.call("kitchen", 0, 1);
+        for (int kind = 0; kind < 7; kind++) {
+            kinds.call("rider", kind, 1);
+        }
+        kinds.call("order", 0, 1, 10, 0);
+        kinds.call("refuse", 0, 0);
+        kinds.call("give", 1, 0);
+        kinds.go(30);
+        int[] goes = {10, 8, 8, 20, 7, 10, 22};
+        for (int kind = 0; kind < 7; kind++) {
+            int d = goes[kind];
+            Run twin = kinds.twin();
+            int text = twin.text("(n=" + kind + ")*(d=" + d + ")*(c=" + d + ")*(l=" + (2 * d - 10) + ")");
+            twin.due(kind, "whom", text, 0).due(2 * d, "night", text, 4).due(2 * d - 10, "night", text, 1);
+        }
         // the second: RIDER 1 is at 1 then, dropped at 31
         named.due(1, "whom", named.text("(d=0)*9+(d=10)*(l=21)*(h=1)*n"), 1);
     }

@@ -1,6 +1,7 @@
 /** The Terms' sentences up to ORDERS GIVEN, one test each. */
 public final class BoundsTermsTownTest extends Bounds {
-    private static final String JOINED = "With two ORDERS JOINED: of the ways that can be (none with a WAY missing, none "
+    private static final String JOINED =
+            "With two ORDERS JOINED: of the ways that can be (none with a WAY missing, none "
             + "that ends above MINUTE 1439) by which each is picked ahead of its drop that with the least "
             + "LATE of both together; of several the one that ends first; of several the first of these "
             + "(a, b: the one told first, the other): pick a, drop a, pick b, drop b; pick b, drop b, pick a, "
@@ -325,6 +326,15 @@ public final class BoundsTermsTownTest extends Bounds {
         r.due(52, "trip", 0, 1, 0).due(72, "trip", 0, 1, 1);
         r.go(30).due(52, "trip", 0, 1, 0);
         r.go(1).due(53, "trip", 0, 1, 0).due(73, "give", 0, 1);
+        // each kind as it GOES: WAYS of 10 and 20, from 43 on
+        int[][] legs = {{10, 20}, {8, 15}, {8, 13}, {20, 40}, {7, 14}, {10, 20}, {22, 42}};
+        Run kinds = r.twin().go(10);
+        kinds.call("order", 0, 2, 60, 0);
+        for (int kind = 0; kind < 7; kind++) {
+            kinds.call("rider", kind, 0);
+            int pick = 43 + Math.max(10, legs[kind][0]);
+            kinds.due(pick, "trip", kind + 1, 2, 0).due(pick + legs[kind][1], "trip", kind + 1, 2, 1);
+        }
         // for nothing: there, READY, and at its CROSSING
         r.call("order", 0, 1, 10, 0);
         r.call("rider", 0, 1);
@@ -371,6 +381,17 @@ public final class BoundsTermsTownTest extends Bounds {
         alike.call("order", 0, 0, 10, 0);
         alike.call("order", 0, 0, 10, 0);
         alike.due(0, "join", 0, 0, 1, 0).due(0, "join", 0, 1, 0, 0).due(1, "join", 0, 0, 1, 2);
+        // each kind as it GOES, which way and when it ends
+        int[][] due = {{0, 33}, {0, 26}, {0, 28}, {0, 65}, {0, 23}, {0, 33}, {2, 69}};
+        Run kinds = fork(0, 120);
+        for (int kind = 0; kind < 7; kind++) {
+            kinds.call("rider", kind, 0);
+            kinds.due(due[kind][0], "join", kind + 1, 0, 1, 0).due(due[kind][1], "join", kind + 1, 0, 1, 2);
+        }
+        // from where it is then, from when it is free: at 1, from 11
+        Run moved = fork(0, 120);
+        moved.call("order", 0, 1, 120, 0);
+        moved.due(11, "give", 0, 2).due(0, "join", 0, 0, 1, 0).due(53, "join", 0, 0, 1, 2);
         // a WAY is missing to one KITCHEN, to one CROSSING
         Run far = fork(0, 120);
         far.call("kitchen", 9, 1);
@@ -467,8 +488,19 @@ public final class BoundsTermsTownTest extends Bounds {
         Run two = fork(0, 120);
         two.due(33, "giveTwo", 0, 0, 1).due(2, "riderOf", 0, 1).due(33, "riderOf", 0, 2);
         two.due(33, "riderOf", 0, 4).due(2, "riderOf", 0, 3);
-        Run other = fork(0, 10);
-        other.due(35, "giveTwo", 0, 0, 1).due(1, "riderOf", 0, 1);
+        Run other = fork(5, 10);
+        other.due(40, "giveTwo", 0, 0, 1).due(1, "riderOf", 0, 1).due(35, "riderOf", 0, 4);
+        // as many TRIPS as there are ORDERS, of one MINUTE and of twenty
+        Run all = new Run();
+        all.call("road", 0, 1, 10);
+        all.call("kitchen", 0, 1);
+        all.call("rider", 0, 0);
+        for (int o = 0; o < 24; o++) {
+            all.call("order", 0, o % 2, 10, 0);
+            all.call("give", 0, o);
+        }
+        // one to 0 ends there; one to 1 takes 10, the next comes back for 10
+        all.due(1 + 12 * 10 + 11 * 10, "riderOf", 0, 4).due(231, "riderOf", 0, 2).due(24, "riderOf", 0, 3);
     }
 
     @Sentence(of = 0, says = "ORDERS are 0 waiting, 1 GIVEN, 2 called off.")

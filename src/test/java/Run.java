@@ -56,9 +56,15 @@ final class Run {
             Due.is("status(" + f + ") behind " + told(name, a),
                     ahead.twin().call("status", f) + more, twin().call("status", f));
         }
+        return isLike(ahead);
+    }
+
+    /** All that can be asked of this one and of the other, but for status(), is answered alike. */
+    Run isLike(Run other) {
+        String latest = told(names.get(names.size() - 1), arguments.get(arguments.size() - 1));
         for (int part = 0; part < Everything.PARTS; part++) {
-            Due.isTrue(told(name, a) + " leaves part " + part + " as it was", Arrays.equals(
-                    Everything.answers(ahead.twin(), part), Everything.answers(twin(), part)));
+            Due.isTrue("behind " + latest + " part " + part + " is as it was", Arrays.equals(
+                    Everything.answers(other.twin(), part), Everything.answers(twin(), part)));
         }
         return this;
     }
