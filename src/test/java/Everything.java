@@ -2,7 +2,7 @@ import java.util.ArrayList;
 import java.util.List;
 
 /**
- * What can be asked of an object, in parts: each is asked of a twin of its own, as an object has
+ * What an object holds, as far as it is asked here, in parts: each is asked of a twin of its own, as an object has
  * 512 calls, and as some can be asked only by a change.
  */
 final class Everything {

@@ -47,7 +47,7 @@ final class Run {
         return twin;
     }
 
-    /** The call answers a finding, which status() counts, and changes nothing else that can be asked. */
+    /** The call answers a finding, which status() counts, and changes nothing else that Everything asks. */
     Run refuses(int finding, String name, int... a) {
         Run ahead = twin();
         due(finding, name, a);
@@ -59,7 +59,7 @@ final class Run {
         return isLike(ahead);
     }
 
-    /** All that can be asked of this one and of the other, but for status(), is answered alike. */
+    /** What Everything asks of this one and of the other is answered alike. */
     Run isLike(Run other) {
         String latest = told(names.get(names.size() - 1), arguments.get(arguments.size() - 1));
         for (int part = 0; part < Everything.PARTS; part++) {
