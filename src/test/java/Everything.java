@@ -6,7 +6,7 @@ import java.util.List;
  * 512 calls, and as some can be asked only by a change.
  */
 final class Everything {
-    static final int PARTS = 8;
+    static final int PARTS = 10;
 
     private final Run run;
     private final List<Integer> answers = new ArrayList<>();
@@ -25,6 +25,8 @@ final class Everything {
             case 4: all.spotsAndRefusals(); break;
             case 5: all.roomLeft(); break;
             case 6: all.sheets(); break;
+            case 7: all.trips(); break;
+            case 8: all.joins(); break;
             default: all.image(); break;
         }
         return all.answers.stream().mapToInt(Integer::intValue).toArray();
@@ -141,6 +143,42 @@ final class Everything {
         for (int s = 0; s < 4; s++) {
             for (int i = 0; i <= 60; i++) {
                 ask("write", s, i, 0);
+            }
+        }
+    }
+
+    /** Of the first RIDERS and ORDERS alone, as an object has 512 calls. */
+    private void trips() {
+        int riders = Math.min(5, run.call("count", 4));
+        int orders = Math.min(8, run.call("count", 2));
+        for (int r = 0; r < riders; r++) {
+            for (int o = 0; o < orders; o++) {
+                ask("trip", r, o, 0);
+                ask("trip", r, o, 1);
+            }
+            for (int c = 0; c < 4; c++) {
+                ask("goes", r, c, 3 - c);
+            }
+            ask("ban", r, 50, 1);
+            ask("ban", r, 49, 2);
+        }
+        int texts = run.call("count", 5);
+        for (int t = 0; t < texts; t++) {
+            for (int o = 0; o < orders; o++) {
+                ask("whom", t, o);
+            }
+        }
+    }
+
+    private void joins() {
+        int riders = Math.min(4, run.call("count", 4));
+        int orders = Math.min(7, run.call("count", 2));
+        for (int r = 0; r < riders; r++) {
+            for (int one = 0; one < orders; one++) {
+                for (int other = one + 1; other < orders; other++) {
+                    ask("join", r, one, other, 0);
+                    ask("join", r, other, one, 2);
+                }
             }
         }
     }

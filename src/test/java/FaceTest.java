@@ -17,6 +17,13 @@ public final class FaceTest {
 
     public static void main(String[] args) throws Exception {
         face();
+        inside(BagRiders.class);
+        for (Class<?> own : BagRiders.class.getDeclaredClasses()) {
+            Due.isTrue(own + " is static, and not open to all", Modifier.isStatic(own.getModifiers())
+                    && !Modifier.isPublic(own.getModifiers()) && !Modifier.isProtected(own.getModifiers()));
+            Due.is("classes inside " + own, 0, own.getDeclaredClasses().length);
+            inside(own);
+        }
         String code = Files.readString(PROGRAM)
                 .replaceAll("(?s)/\\*.*?\\*/", "").replaceAll("//[^\n]*", "");
         words(code);
@@ -51,6 +58,22 @@ public final class FaceTest {
                 && made[0].getParameterCount() == 0);
         Due.isTrue("the class", Modifier.isPublic(BagRiders.class.getModifiers())
                 && Modifier.isFinal(BagRiders.class.getModifiers()));
+    }
+
+    /** Static fields are constants; the others are some twenty at most. */
+    private static void inside(Class<?> type) {
+        Set<Class<?>> constants = Set.of(int.class, long.class, boolean.class, char.class, String.class,
+                int[].class, long[].class, char[].class, byte[].class);
+        int fields = 0;
+        for (Field field : type.getDeclaredFields()) {
+            if (Modifier.isStatic(field.getModifiers())) {
+                Due.isTrue(field + " is a constant", Modifier.isFinal(field.getModifiers())
+                        && constants.contains(field.getType()));
+            } else {
+                fields++;
+            }
+        }
+        Due.isTrue("some twenty fields of " + type + ": " + fields, fields <= 20);
     }
 
     private static String told(Method method) {
